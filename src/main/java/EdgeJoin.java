@@ -39,7 +39,7 @@ public final class EdgeJoin {
     private final State before = new State();
     private final History history = new History();
     private final Sides sides = new Sides();
-    private final Arranger arranger = new Arranger(sides);
+    private final Arranger arranger = new Arranger();
     private final Maker maker = new Maker();
     private final Text text = new Text();
     private int badCount = 0;
@@ -153,8 +153,7 @@ public final class EdgeJoin {
         if (w * h != now.count || turned == 1 && now.count > MOST_TURNED_PIECES) {
             return fail(NO);
         }
-        sides.follow(now);
-        if (!arranger.findBest(w, h, turned == 1, framed == 1)) {
+        if (!arranger.findBest(freshSides(), w, h, turned == 1, framed == 1)) {
             return NOTHING_THERE;
         }
         return p == NONE ? arranger.bestCost : arranger.best.contents[p];
@@ -820,7 +819,6 @@ public final class EdgeJoin {
 
     /** Searches the arrangements in lexicographic order, so that the first of the best ones stays. */
     private static final class Arranger {
-        private final Sides sides;
         private int turnCount = 1;
         private boolean framed = false;
         private final boolean[] used = new boolean[MOST_PIECES];
@@ -828,12 +826,8 @@ public final class EdgeJoin {
         final Rectangle best = new Rectangle();
         int bestCost = ABOVE_ANY_COST;
 
-        Arranger(Sides sides) {
-            this.sides = sides;
-        }
-
         /** Needs sides that are up to date and as many places as pieces; answers whether there is an arrangement. */
-        boolean findBest(int w, int h, boolean turned, boolean withFrame) {
+        boolean findBest(Sides sides, int w, int h, boolean turned, boolean withFrame) {
             turnCount = turned ? 4 : 1;
             framed = withFrame;
             for (int k = 0; k < MOST_PIECES; k++) {
@@ -841,12 +835,12 @@ public final class EdgeJoin {
             }
             trial.reset(w, h);
             bestCost = ABOVE_ANY_COST;
-            fillFrom(this, 0, 0);
+            fillFrom(this, sides, 0, 0);
             return bestCost < ABOVE_ANY_COST;
         }
 
         /** The depth is the place, at most 8. */
-        private static void fillFrom(Arranger a, int p, int costSoFar) {
+        private static void fillFrom(Arranger a, Sides sides, int p, int costSoFar) {
             if (p >= a.trial.size() || p >= MOST_PLACES) {
                 a.bestCost = costSoFar;
                 a.best.copyFrom(a.trial);
@@ -856,11 +850,11 @@ public final class EdgeJoin {
                 for (int t = 0; t < a.turnCount && !a.used[k]; t++) {
                     int content = 4 * k + t;
                     // What costs as much as the best one comes later in the order, and costs never fall.
-                    int reached = costSoFar + a.sides.addedCost(a.trial, p, content);
-                    if (reached < a.bestCost && (!a.framed || a.fitsFrame(p, content))) {
+                    int reached = costSoFar + sides.addedCost(a.trial, p, content);
+                    if (reached < a.bestCost && (!a.framed || a.fitsFrame(sides, p, content))) {
                         a.used[k] = true;
                         a.trial.contents[p] = content;
-                        fillFrom(a, p + 1, reached);
+                        fillFrom(a, sides, p + 1, reached);
                         a.trial.contents[p] = NONE;
                         a.used[k] = false;
                     }
@@ -868,7 +862,7 @@ public final class EdgeJoin {
             }
         }
 
-        private boolean fitsFrame(int p, int content) {
+        private boolean fitsFrame(Sides sides, int p, int content) {
             for (int d = 0; d < 4; d++) {
                 boolean atRim = trial.neighborOf(p, d) == NONE;
                 if (atRim != sides.isFlat(sideTowards(content, d))) {

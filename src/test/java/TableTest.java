@@ -18,6 +18,7 @@ public final class TableTest {
         cost();
         next();
         nextTurned();
+        nextAfterChanges();
         nextNowhere();
         Check.end("TableTest");
     }
@@ -191,6 +192,19 @@ public final class TableTest {
         x.puts(1, 2, 1);
         isNext(x, 1, 2, 5, 0);
         isNext(x, 0, 2, 4, 6);
+    }
+
+    /** No other query comes between, so that next itself has to look at the pieces again. */
+    private static void nextAfterChanges() {
+        EdgeJoin x = Check.withPieces(THREES, ZEROS);
+        x.puts(0, 0, 0);
+        Check.due("next(0, 2) of zeros", x.next(0, 2), 12);
+        x.piece(Check.cells(TWOS));
+        Check.due("next(0, 2) after piece", x.next(0, 2), 4);
+        x.drops(2);
+        Check.due("next(0, 2) after drops", x.next(0, 2), 12);
+        x.back();
+        Check.due("next(0, 2) after back()", x.next(0, 2), 4);
     }
 
     private static void nextNowhere() {

@@ -142,6 +142,12 @@ public final class UndoTest {
         x.puts(0, 1, 3);
         due = hash(1, 2, 0, 1, 2, 2, 1, 5, end, 0, 13, 0, 1, 2, -1, 2, 0, 0, 0, 3, 7, 2, 9, 1, 1, 3, 3);
         Check.due("digest() with a cost", x.digest(), due);
+        EdgeJoin y = Check.withPieces("0000 0001 0002 0000", "0000 1000 2000 0000");
+        long other = Check.cells("0000 1000 2000 0000");
+        // The edges are 0000, 0120 and 0210, the last two of which are the same read backwards.
+        due = hash(0, 0, 0, 0, 2, 4, 2, 2, end, 0, 13, 0, -1, -1, other, 0, 7, 0, -1, -1,
+            -1, -1, -1, -1, -1, -1, -1, -1, 0, 1, 1, 3, 2);
+        Check.due("digest() with other edges backwards", y.digest(), due);
     }
 
     private static void constants() {
