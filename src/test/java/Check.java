@@ -58,6 +58,57 @@ final class Check {
         due("digest() after " + call, x.digest(), before);
     }
 
+    /** Runs the test of one sentence of the document, and says so if that one is broken. */
+    static void sentence(String words, Runnable test) {
+        int before = wrong;
+        test.run();
+        if (wrong != before) {
+            System.out.println("broken is: " + words);
+        }
+    }
+
+    /** A piece of one color. */
+    static int plain(int color) {
+        return 0x55555555 * color;
+    }
+
+    /** A piece with zeros inside and in its corners; between them each side has two digits, clockwise. */
+    static int rim(String top, String right, String bottom, String left) {
+        return cells("0" + top + "0"
+            + left.charAt(1) + "00" + right.charAt(0)
+            + left.charAt(0) + "00" + right.charAt(1)
+            + "0" + bottom.charAt(1) + bottom.charAt(0) + "0");
+    }
+
+    static EdgeJoin withCells(int... pieces) {
+        EdgeJoin x = new EdgeJoin();
+        for (int i = 0; i < pieces.length; i++) {
+            due("piece(" + pieces[i] + ")", x.piece(pieces[i]), i);
+        }
+        return x;
+    }
+
+    static EdgeJoin withSame(int count, int cells) {
+        EdgeJoin x = new EdgeJoin();
+        for (int i = 0; i < count; i++) {
+            due("piece(" + cells + ")", x.piece(cells), i);
+        }
+        return x;
+    }
+
+    /** All the sizes that a table can have, as the document says. */
+    static int[][] sizes() {
+        int[][] all = new int[20][];
+        int found = 0;
+        for (int w = 1; w <= 8; w++) {
+            for (int h = 1; w * h <= 8; h++) {
+                all[found] = new int[] {w, h};
+                found++;
+            }
+        }
+        return all;
+    }
+
     /** A piece from its digits row by row; spaces are passed over. */
     static int cells(String digits) {
         int cells = 0;
@@ -80,13 +131,18 @@ final class Check {
         return x;
     }
 
-    /** Clears the text, types another one, and answers what reads() does. */
-    static int read(EdgeJoin x, String orders) {
+    /** Clears the text and types another one. */
+    static void write(EdgeJoin x, String orders) {
         x.clear();
         for (char c : orders.toCharArray()) {
             x.type(c);
         }
         due("told(3) behind '" + orders + "'", x.told(3), orders.length());
+    }
+
+    /** Writes a text and answers what reads() does. */
+    static int read(EdgeJoin x, String orders) {
+        write(x, orders);
         return x.reads();
     }
 }

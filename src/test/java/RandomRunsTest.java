@@ -1,6 +1,6 @@
 /** Random runs of at most 512 calls, each answer compared with the slow model: all promises. */
 public final class RandomRunsTest {
-    private static final int RUNS = 400;
+    private static final int RUNS = 600;
     private static final int CALLS = 512;
     private static final String ORDER_SIGNS = "ptaxm;  0123456789 q";
 
