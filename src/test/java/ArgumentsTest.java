@@ -1,5 +1,6 @@
 import java.util.Arrays;
 import java.util.List;
+import java.util.function.IntSupplier;
 
 /** The ranges of all arguments: the last value inside and the first outside on each side, and values far outside. */
 public final class ArgumentsTest {
@@ -152,7 +153,7 @@ public final class ArgumentsTest {
         return method.name().equals("joins") && a[4] == 5 && (a[0] == 8 || a[1] == 8);
     }
 
-    private static void isRightIf(boolean right, EdgeJoin x, String call, java.util.function.IntSupplier doCall) {
+    private static void isRightIf(boolean right, EdgeJoin x, String call, IntSupplier doCall) {
         if (right) {
             int wrong = x.told(0);
             doCall.getAsInt();

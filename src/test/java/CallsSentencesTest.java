@@ -1,3 +1,4 @@
+import java.math.BigInteger;
 import java.util.HashSet;
 import java.util.Set;
 
@@ -119,10 +120,10 @@ public final class CallsSentencesTest {
         for (int seed : new int[] {0, 1, 2, 65535, 65536, 500000, 999998, 999999}) {
             EdgeJoin x = new EdgeJoin();
             Check.due("makes(" + seed + ", 1, 1, 0)", x.makes(seed, 1, 1, 0), 1);
-            java.math.BigInteger s = java.math.BigInteger.valueOf(seed);
+            BigInteger s = BigInteger.valueOf(seed);
             for (int i : new int[] {5, 6, 9, 10}) {
-                s = s.multiply(java.math.BigInteger.valueOf(1103515245)).add(java.math.BigInteger.valueOf(12345)).mod(
-                    java.math.BigInteger.ONE.shiftLeft(31));
+                s = s.multiply(BigInteger.valueOf(1103515245)).add(BigInteger.valueOf(12345)).mod(
+                    BigInteger.ONE.shiftLeft(31));
                 int r = s.shiftRight(16).intValue();
                 Check.due("cell " + i + " of seed " + seed, x.cell(0, i % 4, i / 4), r % 3 + 1);
             }
