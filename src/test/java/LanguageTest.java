@@ -6,8 +6,11 @@ import java.lang.reflect.Modifier;
 import java.nio.file.Files;
 import java.nio.file.Path;
 import java.util.List;
+import java.util.Map;
 import java.util.Set;
+import java.util.TreeMap;
 import java.util.TreeSet;
+import java.util.regex.Matcher;
 import java.util.regex.Pattern;
 
 /** Looks in the program's text and in its class for what LANGUAGE.md rules out; .ci/run starts it in the project's folder. */
@@ -20,6 +23,7 @@ public final class LanguageTest {
         "Exact\\b", "MAX_VALUE", "MIN_VALUE", "\\bhashCode\\b", "\\bequals\\b", "\\btoString\\b", "\\bObject\\b",
         "\\bvar\\b", "\\bnative\\b", "\\bvolatile\\b");
     private static final int MOST_LINES = 60;
+    private static final int MOST_DEEP = 8;
 
     public static void main(String[] args) throws IOException {
         String source = Files.readString(Path.of("src/main/java/EdgeJoin.java"));
@@ -27,8 +31,10 @@ public final class LanguageTest {
         words(code);
         newOnlyOnce(code);
         shortMethods(code);
+        shallowCalls(code);
         face();
         nestedClasses();
+        staticFields(EdgeJoin.class, code);
         Check.end("LanguageTest");
     }
 
@@ -59,6 +65,55 @@ public final class LanguageTest {
                 Check.holds("a method of at most 60 lines ends in line " + i, i - start <= MOST_LINES
                     || lines[i].matches(" {4}\\}"));
             }
+        }
+    }
+
+    /** Rule 11, and rule 8: the search alone calls itself. A chain of calls counts from the public method. */
+    private static void shallowCalls(String code) {
+        Map<String, Set<String>> calls = new TreeMap<>();
+        Matcher head = Pattern.compile("(?m)^ {4,8}(?:\\w+ )*[\\w\\[\\]]+ (\\w+)\\([^;]*?\\) \\{").matcher(code);
+        while (head.find()) {
+            String indent = head.group().replaceAll("(?s)\\S.*", "");
+            int end = code.indexOf("\n" + indent + "}", head.end());
+            Set<String> called = calls.computeIfAbsent(head.group(1), name -> new TreeSet<>());
+            Matcher call = Pattern.compile("(\\w+)\\(").matcher(code.substring(head.end(), end));
+            while (call.find()) {
+                called.add(call.group(1));
+            }
+        }
+        Check.holds("all methods of the face were found", calls.keySet().containsAll(FACE));
+        // A State's copyFrom() calls that of its table.
+        calls.get("copyFrom").remove("copyFrom");
+        Check.holds("the search calls itself", calls.get("fillFrom").remove("fillFrom"));
+        for (String name : calls.keySet()) {
+            int deep = depthOf(name, calls, 0);
+            Check.holds("calls from " + name + " go at most eight deep: " + deep, deep <= MOST_DEEP);
+        }
+    }
+
+    /** How many methods stand open at once below and with this one; more than any limit if it is met again. */
+    private static int depthOf(String name, Map<String, Set<String>> calls, int above) {
+        int deepest = 0;
+        if (above > 2 * MOST_DEEP) {
+            return deepest;
+        }
+        for (String called : calls.getOrDefault(name, Set.of())) {
+            boolean ours = calls.containsKey(called) || called.equals("min") || called.equals("abs");
+            deepest = Math.max(deepest, ours ? depthOf(called, calls, above + 1) : 0);
+        }
+        return deepest + 1;
+    }
+
+    /** Rule 5. */
+    private static void staticFields(Class<?> type, String code) {
+        Check.holds("no static initialiser block", !Pattern.compile("\\bstatic\\s*\\{").matcher(code).find());
+        Set<Class<?>> fine = Set.of(int.class, long.class, boolean.class, char.class, String.class, int[].class,
+            long[].class, char[].class, byte[].class);
+        for (Field f : type.getDeclaredFields()) {
+            Check.holds(f + " may be static", !Modifier.isStatic(f.getModifiers()) || fine.contains(f.getType()));
+        }
+        for (Class<?> nested : type.getDeclaredClasses()) {
+            staticFields(nested, code);
         }
     }
 
